@@ -313,6 +313,13 @@ public final class TablesTest {
     Checks.same("copy: of itself, none lost last", x.ofTable(0, 3), -1);
     Checks.same("copy: of an empty one", x.copy(2, 1), 0);
     Checks.same("copy: empty then", x.text(1, 0), "");
+    for (int key = 0; key < 20; key++) {
+      x.put(2, key, key);
+    }
+    Checks.same("copy: of all keys", x.copy(2, 1), 20);
+    Checks.same("copy: the last of all keys", x.pairAt(1, 19), 1919);
+    Checks.same("copy: of all keys, of itself", x.copy(1, 1), 20);
+    Checks.same("copy: the same then", x.text(1, 2), x.text(2, 2));
     for (int no : NO_TABLES) {
       Checks.noPlace("copy of table " + no, x, () -> x.copy(no, 0));
       Checks.noPlace("copy into table " + no, x, () -> x.copy(0, no));
