@@ -33,7 +33,7 @@ public final class Lastasked {
 
   public Lastasked() {
     for (int i = 0; i < TABLES; i++) {
-      tables[i] = new Table();
+      tables[i] = new Table(new Row(false, NONE));
     }
     for (int i = 0; i < SIZES; i++) {
       keepers[i] = new Keeper(i + 1);
@@ -827,8 +827,13 @@ public final class Lastasked {
 
   /** One of the TABLES that are changed freely: its PAIRS, and the WALK along them. */
   private static final class Table {
-    private final Row row = new Row(false, NONE);
-    private final Walk walking = new Walk(row);
+    private final Row row;
+    private final Walk walking;
+
+    Table(Row rowOfIt) {
+      row = rowOfIt;
+      walking = new Walk(rowOfIt);
+    }
   }
 
   /** The last asked KEYS of one size, and how often they held what was asked. */
